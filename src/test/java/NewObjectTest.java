@@ -1,0 +1,32 @@
+/** Promise 1: a new object has no bytes and no module. */
+public final class NewObjectTest {
+    public static void main(String[] args) {
+        ModuleBytes x = new ModuleBytes();
+        Check.due("place()", x.place(), -1);
+        for (int what = 0; what <= 11; what++) {
+            Check.due("many(" + what + ")", x.many(what), 0);
+        }
+        Check.due("many(12)", x.many(12), -1);
+        Check.due("many(13)", x.many(13), -1);
+        Check.due("type(0, 0, -1)", x.type(0, 0, -1), -1);
+        for (int kind = 0; kind <= 11; kind++) {
+            Check.due("look(kind, 0, 0)", x.look(kind, 0, 0), -1);
+            Check.due("look(kind, 0, 8)", x.look(kind, 0, 8), -1);
+            Check.due("name(kind, 0, 0, -1)", x.name(kind, 0, 0, -1), -1);
+        }
+        Check.due("end(1)", x.end(1), -1);
+        Check.due("place() after end(1)", x.place(), -1);
+        Check.due("end(0)", x.end(0), 1);
+        Check.due("place() after end(0)", x.place(), 0);
+        Check.due("feed", x.feed(1, 2, 3, 4, 5), 20);
+        objectsAreApart();
+        Check.finish();
+    }
+
+    private static void objectsAreApart() {
+        ModuleBytes one = Check.module(Check.section(1, "1 96 0 0"));
+        ModuleBytes other = new ModuleBytes();
+        Check.due("many(0) of the one", one.many(0), 1);
+        Check.due("many(0) of the other", other.many(0), 0);
+    }
+}
