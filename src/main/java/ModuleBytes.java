@@ -442,7 +442,7 @@ public final class ModuleBytes {
             if (lead < 192 || lead > 247 || size > at - place) {
                 return 0;
             }
-            int value = lead & 127 >> size;
+            int value = lead & (127 >> size);
             for (int i = 1; i < size; i++) {
                 int follower = bytes[place + i] & 255;
                 if (follower < 128 || follower > 191) {

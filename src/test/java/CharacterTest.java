@@ -40,6 +40,11 @@ public final class CharacterTest {
             judge(follows, "241 128 " + second + " 128");
             judge(follows, "241 128 128 " + second);
         }
+        bad(0, "237 160 128");
+        bad(0, "237 191 191");
+        bad(0, "224 159 191");
+        bad(0, "240 143 191 191");
+        bad(0, "244 144 128 128");
         bad(0, "194");
         bad(0, "225 128");
         bad(0, "241 128 128");

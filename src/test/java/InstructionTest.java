@@ -9,6 +9,7 @@ public final class InstructionTest {
         operandsThatAreWrong();
         elses();
         nesting();
+        oneBehindTheOther();
         locals();
         Check.finish();
     }
@@ -149,8 +150,23 @@ public final class InstructionTest {
         ModuleBytes x = new ModuleBytes();
         Check.due("blocks to the end", Check.read(x, Check.HEAD + "6 197 15 1 127 0 " + "4 64 ".repeat(993)), 1);
         Check.due("place()", x.place(), 2000);
+        Check.due("a 5 deep down", Check.read(x, Check.HEAD + "6 196 15 1 127 0 " + "4 64 ".repeat(992) + "5"), 1);
+        Check.due("place()", x.place(), 1999);
+        Check.due("a 5 too many", Check.read(x, Check.HEAD + "6 197 15 1 127 0 " + "4 64 ".repeat(992) + "5 5"), 10);
+        Check.due("place()", x.place(), 1999);
         ModuleBytes y = Check.module(Check.section(6, "1 127 0 2 64 1 11 1 11"));
         Check.due("look(5, 0, 5)", y.look(5, 0, 5), 19);
+    }
+
+    private static void oneBehindTheOther() {
+        ModuleBytes x = Check.module(Check.section(6, "3 127 0 4 64 5 11 11 127 0 2 64 1 11 11 127 0 4 64 1 5 11 1 11"));
+        Check.due("look(5, 1, 5) - look(5, 1, 4)", x.look(5, 1, 5) - x.look(5, 1, 4), 5);
+        Check.due("look(5, 2, 5) - look(5, 2, 4)", x.look(5, 2, 5) - x.look(5, 2, 4), 7);
+        // Blocks that are open at a fault are none for the next reading.
+        Check.due("a fault in blocks", Check.read(x, Check.HEAD + Check.section(6, "1 127 0 4 64 4 64 6")), 10);
+        Check.due("a 5 in no block", Check.read(x, Check.HEAD + Check.section(6, "1 127 0 5 11 11")), 10);
+        Check.due("a fault in blocks", Check.read(x, Check.HEAD + Check.section(6, "1 127 0 4 64 4 64 6")), 10);
+        Check.due("no block", Check.read(x, Check.HEAD + Check.section(6, "1 127 0 11")), 0);
     }
 
     private static void locals() {

@@ -30,7 +30,32 @@ public final class ManyTest {
         others(empty);
         Check.due("many(12)", Check.module(Check.section(8, "0")).many(12), 0);
         Check.due("many(13)", Check.module(Check.section(12, "0")).many(13), 0);
+        oneModuleAfterTheOther();
         Check.finish();
+    }
+
+    private static void oneModuleAfterTheOther() {
+        ModuleBytes x = new ModuleBytes();
+        String full = Check.section(1, "1 96 0 0") + Check.section(8, "7") + Check.section(12, "1") + Check.section(11, "1 1 0");
+        for (int round = 0; round < 4; round++) {
+            Check.due("end of a full module", Check.read(x, Check.HEAD + full), 0);
+            Check.due("many(11)", x.many(11), 4);
+            Check.due("many(12)", x.many(12), 7);
+            Check.due("many(13)", x.many(13), 1);
+            // A fault behind the sections must leave nothing for the next reading either.
+            Check.due("end of a fault", Check.read(x, Check.HEAD + full + "0"), 1);
+            Check.due("many(11)", x.many(11), 4);
+            Check.due("end of a small module", Check.read(x, Check.HEAD + Check.section(11, "2 1 0 1 0")), 0);
+            Check.due("many(0)", x.many(0), 0);
+            Check.due("many(9)", x.many(9), 2);
+            Check.due("many(11)", x.many(11), 1);
+            Check.due("many(12)", x.many(12), -1);
+            Check.due("many(13)", x.many(13), -1);
+            if (round == 1) {
+                Check.due("end of one more", Check.read(x, Check.HEAD), 0);
+                Check.due("many(11)", x.many(11), 0);
+            }
+        }
     }
 
     private static void others(ModuleBytes x) {
