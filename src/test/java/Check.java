@@ -12,10 +12,14 @@ final class Check {
 
     static void due(String call, long got, long want) {
         if (got != want) {
-            wrong++;
             String shown = call.length() > 120 ? call.substring(0, 120) + " .." : call;
-            System.out.println(shown + " answered " + got + ", due is " + want);
+            wrong(shown + " answered " + got + ", due is " + want);
         }
+    }
+
+    static void wrong(String told) {
+        wrong++;
+        System.out.println(told);
     }
 
     /** Ends the test, with exit code 1 if an answer was wrong. */
@@ -109,5 +113,30 @@ final class Check {
         ModuleBytes x = new ModuleBytes();
         due("end of " + sections, read(x, HEAD + sections), fault);
         due("place after " + sections, x.place(), place + 8);
+    }
+
+    /** Where the length of the section begins whose bytes are not all there, though its length is; -1 if there is none. */
+    static int openSection(String text) {
+        int[] all = bytes(text);
+        int at = 8;
+        while (at < all.length) {
+            int begin = at + 1;
+            long length = 0;
+            int shift = 0;
+            at++;
+            while (at < all.length && all[at] > 127) {
+                length |= (long) (all[at++] & 127) << shift;
+                shift += 7;
+            }
+            if (at >= all.length) {
+                return -1;
+            }
+            length |= (long) all[at++] << shift;
+            if (length > all.length - at) {
+                return begin;
+            }
+            at += (int) length;
+        }
+        return -1;
     }
 }

@@ -128,16 +128,22 @@ public final class LookTest {
     }
 
     private static void wrongArguments() {
-        ModuleBytes x = Check.module(Check.section(1, "1 96 1 127 1 127") + Check.section(9, "1 1 0 1 6"));
         int[] kinds = {-1, 0, 11, 12, 13, Integer.MIN_VALUE, Integer.MAX_VALUE};
+        ModuleBytes small = smallModule();
         for (int kind : kinds) {
-            answers(x, kind, 0);
+            answers(small, kind, 0);
         }
         int[] places = {-1, 1, 2, Integer.MIN_VALUE, Integer.MAX_VALUE, 1 << 29};
         for (int kind = 0; kind <= 10; kind++) {
+            // One object for each kind, since no more than 512 calls are promised.
+            ModuleBytes x = smallModule();
             for (int k : places) {
                 answers(x, kind, k);
             }
         }
+    }
+
+    private static ModuleBytes smallModule() {
+        return Check.module(Check.section(1, "1 96 1 127 1 127") + Check.section(9, "1 1 0 1 6"));
     }
 }

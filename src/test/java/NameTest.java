@@ -1,10 +1,7 @@
 /** Promise 8: the bytes of names. */
 public final class NameTest {
     public static void main(String[] args) {
-        ModuleBytes x = Check.module(Check.section(0, Check.named("head") + "1 2")
-            + Check.section(2, "2 " + Check.named("env") + Check.named("go") + "0 0 " + Check.named("") + "3 226 130 172 3 127 0")
-            + Check.section(7, "2 " + Check.named("run") + "0 0 " + Check.named("") + "1 0")
-            + Check.section(0, Check.named("")));
+        ModuleBytes x = moduleOfNames();
         spelled(x, 1, 0, 0, 'e', 'n', 'v');
         spelled(x, 1, 0, 1, 'g', 'o');
         spelled(x, 1, 1, 0);
@@ -14,25 +11,37 @@ public final class NameTest {
         spelled(x, 10, 0, 0, 'h', 'e', 'a', 'd');
         spelled(x, 10, 1, 0);
         for (int i = -2; i < 3; i++) {
-            for (int kind = -1; kind <= 12; kind++) {
-                if (kind != 1 && kind != 6 && kind != 10) {
-                    nothing(x, kind, 0, 0, i);
-                }
-                nothing(x, kind, 2, 0, i);
-                nothing(x, kind, -1, 0, i);
-                nothing(x, kind, Integer.MAX_VALUE, 0, i);
-                nothing(x, kind, 0, 2, i);
-                nothing(x, kind, 0, -1, i);
-                nothing(x, kind, 0, Integer.MIN_VALUE, i);
-                nothing(x, kind, 0, 1 << 30, i);
-            }
-            nothing(x, 6, 0, 1, i);
-            nothing(x, 10, 0, 1, i);
-            nothing(x, Integer.MIN_VALUE, 0, 0, i);
-            nothing(x, Integer.MAX_VALUE, 0, 0, i);
+            wrongArguments(i);
         }
         elementsAndBodiesHaveNone();
         Check.finish();
+    }
+
+    private static ModuleBytes moduleOfNames() {
+        return Check.module(Check.section(0, Check.named("head") + "1 2")
+            + Check.section(2, "2 " + Check.named("env") + Check.named("go") + "0 0 " + Check.named("") + "3 226 130 172 3 127 0")
+            + Check.section(7, "2 " + Check.named("run") + "0 0 " + Check.named("") + "1 0")
+            + Check.section(0, Check.named("")));
+    }
+
+    private static void wrongArguments(int i) {
+        ModuleBytes x = moduleOfNames();
+        for (int kind = -1; kind <= 12; kind++) {
+            if (kind != 1 && kind != 6 && kind != 10) {
+                nothing(x, kind, 0, 0, i);
+            }
+            nothing(x, kind, 2, 0, i);
+            nothing(x, kind, -1, 0, i);
+            nothing(x, kind, Integer.MAX_VALUE, 0, i);
+            nothing(x, kind, 0, 2, i);
+            nothing(x, kind, 0, -1, i);
+            nothing(x, kind, 0, Integer.MIN_VALUE, i);
+            nothing(x, kind, 0, 1 << 30, i);
+        }
+        nothing(x, 6, 0, 1, i);
+        nothing(x, 10, 0, 1, i);
+        nothing(x, Integer.MIN_VALUE, 0, 0, i);
+        nothing(x, Integer.MAX_VALUE, 0, 0, i);
     }
 
     private static void spelled(ModuleBytes x, int kind, int k, int part, int... bytes) {

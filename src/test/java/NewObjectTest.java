@@ -6,8 +6,10 @@ public final class NewObjectTest {
         for (int what = 0; what <= 11; what++) {
             Check.due("many(" + what + ")", x.many(what), 0);
         }
-        Check.due("many(12)", x.many(12), -1);
-        Check.due("many(13)", x.many(13), -1);
+        for (int what = 12; what <= 15; what++) {
+            Check.due("many(" + what + ")", x.many(what), -1);
+        }
+        Check.due("many(-1)", x.many(-1), -1);
         Check.due("type(0, 0, -1)", x.type(0, 0, -1), -1);
         for (int kind = 0; kind <= 11; kind++) {
             Check.due("look(kind, 0, 0)", x.look(kind, 0, 0), -1);
@@ -20,7 +22,28 @@ public final class NewObjectTest {
         Check.due("place() after end(0)", x.place(), 0);
         Check.due("feed", x.feed(1, 2, 3, 4, 5), 20);
         objectsAreApart();
+        noneOfAnything();
         Check.finish();
+    }
+
+    /** Without a module there is none of a kind, whatever is asked of it; nor after bytes that are no module. */
+    private static void noneOfAnything() {
+        int[] some = {-1, 0, 1, 8, Integer.MIN_VALUE, Integer.MAX_VALUE};
+        for (int kind = -1; kind <= 11; kind++) {
+            ModuleBytes x = new ModuleBytes();
+            Check.due("end of a fault", Check.read(x, Check.HEAD + Check.section(1, "1 96 1 127 0") + "13"), 6);
+            Check.due("many(0)", x.many(0), 0);
+            Check.due("many(11)", x.many(11), 0);
+            for (int k : some) {
+                for (int one : some) {
+                    Check.due("look(" + kind + ", " + k + ", " + one + ")", x.look(kind, k, one), -1);
+                    Check.due("name(" + kind + ", " + k + ", 0, " + one + ")", x.name(kind, k, 0, one), -1);
+                    Check.due("name(" + kind + ", " + k + ", 1, " + one + ")", x.name(kind, k, 1, one), -1);
+                    Check.due("type(" + k + ", 0, " + one + ")", x.type(k, 0, one), -1);
+                    Check.due("type(" + k + ", 1, " + one + ")", x.type(k, 1, one), -1);
+                }
+            }
+        }
     }
 
     private static void objectsAreApart() {

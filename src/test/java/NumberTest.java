@@ -62,6 +62,12 @@ public final class NumberTest {
         }
         blockType(0, 0, "128 0");
         blockType(0, 0, "192 0");
+        // The highest bit of the last byte tells the sign, however many bytes there are.
+        for (int more = 1; more < 4; more++) {
+            blockType(0, 0, "255 ".repeat(more) + "63");
+            blockType(8, 6, "128 ".repeat(more) + "64");
+            blockType(8, 6, "192 ".repeat(more) + "127");
+        }
         blockType(8, 6, "192 127");
         blockType(8, 6, "255 127");
         blockType(8, 6, "240 127");
