@@ -23,11 +23,19 @@ public final class CharacterTest {
     }
 
     private static void badOnes() {
-        for (int lead = 128; lead < 194; lead++) {
-            bad(0, lead + " 128 128 128");
+        String[] followers = {"128 128 128", "144 128 128", "160 128 128", "191 191 191"};
+        for (String three : followers) {
+            for (int lead = 128; lead < 194; lead++) {
+                bad(0, lead + " " + three);
+            }
+            for (int lead = 245; lead < 256; lead++) {
+                bad(0, lead + " " + three);
+            }
         }
-        for (int lead = 245; lead < 256; lead++) {
-            bad(0, lead + " 128 128 128");
+        // The characters that would fit into fewer bytes, up to the last of them.
+        for (int follower = 128; follower < 192; follower++) {
+            bad(0, "192 " + follower);
+            bad(0, "193 " + follower);
         }
         for (int second = 0; second < 256; second++) {
             boolean follows = second >= 128 && second < 192;
